@@ -13,6 +13,7 @@ final class OwnerTest {
         file();
         cutting();
         segments();
+        manyChunks();
         equalChunks();
         sealLimits();
         sealRefusedChangesNothing();
@@ -95,6 +96,7 @@ final class OwnerTest {
         Check.due("p4 over the first's disk", x.contract(1, 0, 21), false);
         Check.due("p4 the whole disk", x.contract(0, 1, 20), true);
         Check.due("p4 the same again", x.contract(1, 0, 20), true);
+        Check.due("p4 nothing is left of the second's disk", x.contract(1, 2, 1), false);
         Check.due("p4 over the rest", x.contract(2, 0, 11), false);
         Check.due("p4 the rest", x.contract(2, 0, 10), true);
         Check.due("p4 less", x.contract(0, 1, 5), true);
@@ -227,6 +229,19 @@ final class OwnerTest {
         y.seal(0);
         Check.due("p7 the small ones stand in the second alone", y.forget(0, 0), 1);
         Check.due("p7 which has been filled", y.count(0, 1), 1);
+    }
+
+    private static void manyChunks() {
+        FriendBackup x = Scene.friends(4);
+        Scene.writeSmallChunks(x, 0, 0, 0, 50);
+        Scene.writeSmallChunks(x, 0, 9, 50, 100);
+        Check.due("p7 as many chunks as a run can write", x.seal(0), 0);
+        Check.due("p7 fifteen in a segment", x.count(0, 0), 7);
+        Check.due("p7 all of them", x.count(0, 4), 100);
+        x.push(0);
+        Check.due("p16 the file of the last tag", x.restore(0, 0, 9), 200);
+        Check.due("p17 its first chunk", x.restored(0), 50);
+        Check.due("p17 its last chunk", x.restored(196), 99);
     }
 
     private static void equalChunks() {
