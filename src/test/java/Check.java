@@ -18,6 +18,14 @@ final class Check {
         due(what, got ? 1 : 0, want ? 1 : 0);
     }
 
+    static void same(String what, Object got, Object want) {
+        seen++;
+        if (!got.equals(want)) {
+            wrong++;
+            System.out.println(what + " answered " + got + ", due is " + want);
+        }
+    }
+
     static void badArgument(String what, Runnable call) {
         thrown(what, call, IllegalArgumentException.class);
     }
