@@ -17,21 +17,24 @@ final class Probe {
 
     private static List<List<Call>> made(List<Integer> houses) {
         List<List<Call>> probes = new ArrayList<>();
+        probes.add(bytesRestored());
         probes.add(days(houses));
+        probes.add(ruin(houses));
         for (int i = 0; i < houses.size(); i++) {
             int h = houses.get(i);
             probes.add(looks(h, houses));
+            probes.add(files(h));
             probes.add(folder(h, houses));
             probes.add(snapshots(h, houses));
+            probes.add(oblivion(h, houses));
             probes.add(questions(h));
             probes.add(care(h, houses));
             probes.add(loss(h, houses));
             probes.add(limits(h, houses.get((i + 1) % houses.size())));
         }
         probes.add(newHouses());
-        int first = houses.isEmpty() ? 0 : houses.get(0);
-        probes.add(code(first, "code(4, 13)"));
-        probes.add(code(first, "code(4, 7)"));
+        probes.add(code(houses, "code(4, 13)"));
+        probes.add(code(houses, "code(4, 7)"));
         return probes;
     }
 
@@ -87,22 +90,36 @@ final class Probe {
             probe.add("stored", h, other);
             probe.add("balance", h, other);
         }
-        for (int i = -1; i < 40; i++) {
-            probe.add("restored", i);
-        }
         probe.add("up", h, true);
         probe.add("recover", h);
         return probe.calls;
     }
 
+    private static List<Call> bytesRestored() {
+        Probe probe = new Probe();
+        for (int i = -1; i <= 200; i++) {
+            probe.add("restored", i);
+        }
+        return probe.calls;
+    }
+
+    private static List<Call> files(int h) {
+        Probe probe = new Probe();
+        probe.add("recover", h);
+        for (int tag = 0; tag < 10; tag++) {
+            probe.add("file", h, tag, false);
+        }
+        return probe.calls;
+    }
+
     private static List<Call> folder(int h, List<Integer> houses) {
         Probe probe = new Probe();
+        probe.wake(houses);
+        probe.add("recover", h);
         for (int tag = 0; tag < 10; tag++) {
             probe.add("write", h, tag, 1);
         }
         probe.add("seal", h);
-        probe.wake(houses);
-        probe.add("recover", h);
         probe.add("push", h);
         probe.addCounts(h);
         for (int snapshot = 0; snapshot < 4; snapshot++) {
@@ -111,9 +128,6 @@ final class Probe {
                 probe.add("restored", 0);
                 probe.add("restored", 5);
             }
-        }
-        for (int tag = 0; tag < 10; tag++) {
-            probe.add("file", h, tag, false);
         }
         return probe.calls;
     }
@@ -130,6 +144,19 @@ final class Probe {
             probe.add("count", h, 4);
             probe.add("seal", h);
         }
+        return probe.calls;
+    }
+
+    private static List<Call> oblivion(int h, List<Integer> houses) {
+        Probe probe = new Probe();
+        probe.wake(houses);
+        probe.add("recover", h);
+        for (int snapshot = 0; snapshot < 31; snapshot++) {
+            probe.add("forget", h, snapshot);
+        }
+        probe.addCounts(h);
+        probe.add("seal", h);
+        probe.addCounts(h);
         return probe.calls;
     }
 
@@ -176,6 +203,18 @@ final class Probe {
         return probe.calls;
     }
 
+    /** With all disks lost, only those who never placed a piece recover. */
+    private static List<Call> ruin(List<Integer> houses) {
+        Probe probe = new Probe();
+        for (int h : houses) {
+            probe.add("loseDisk", h);
+        }
+        for (int h : houses) {
+            probe.add("recover", h);
+        }
+        return probe.calls;
+    }
+
     private static List<Call> limits(int a, int b) {
         Probe probe = new Probe();
         for (int limit = 101; limit >= -1; limit--) {
@@ -186,17 +225,22 @@ final class Probe {
 
     private static List<Call> newHouses() {
         Probe probe = new Probe();
-        for (int h = -1; h <= 10; h++) {
+        for (int h = 0; h < 10; h++) {
             probe.add("count", h, 0);
+        }
+        for (int h = 0; h < 10; h++) {
             probe.add("house", h, 400);
         }
         return probe.calls;
     }
 
     /** K by the places of a piece, N by the pieces of a segment; behind a code that can be, or can not. */
-    private static List<Call> code(int h, String code) {
+    private static List<Call> code(List<Integer> houses, String code) {
         Probe probe = new Probe();
-        probe.add("house", h, 10);
+        int h = houses.isEmpty() ? 0 : houses.get(houses.size() - 1);
+        if (houses.isEmpty()) {
+            probe.add("house", h, 10);
+        }
         probe.add("up", h, true);
         probe.add("recover", h);
         probe.calls.add(Call.of(code));
@@ -206,8 +250,10 @@ final class Probe {
         for (int at = 9; at < 31; at++) {
             probe.add("harm", h, h, 0, at, 1);
         }
-        for (int piece = 0; piece < 13; piece++) {
-            probe.add("keeper", h, 0, piece);
+        for (int segment = 0; segment < 5; segment++) {
+            for (int piece = 0; piece < 13; piece++) {
+                probe.add("keeper", h, segment, piece);
+            }
         }
         return probe.calls;
     }

