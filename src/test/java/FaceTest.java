@@ -4,17 +4,21 @@ import java.lang.reflect.Member;
 import java.lang.reflect.Method;
 import java.lang.reflect.Modifier;
 import java.util.Set;
+import java.util.StringJoiner;
 import java.util.TreeSet;
 
 /** The public face is the document's and no more, and the classes inside keep to LANGUAGE.md's rules 1, 5 and 11. */
 final class FaceTest {
+    /** As the document has it; behind the parameters A is IllegalArgumentException, S is IllegalStateException. */
     private static final String[] FACE = {
-        "NONE", "MISMATCH", "MATCH", "SILENT",
-        "void code int int", "void house int int", "boolean contract int int int", "int write int int int",
-        "boolean file int int boolean", "int seal int", "int push int", "boolean up int boolean", "void loseDisk int",
-        "boolean harm int int int int int", "boolean recover int", "int sample int int int", "int audit int",
-        "int repair int", "int restore int int int", "int restored int", "int forget int int", "int health int int",
-        "int keeper int int int", "int count int int", "int stored int int", "void settle int", "int balance int int"
+        "int NONE", "int MISMATCH", "int MATCH", "int SILENT",
+        "void code(int, int) A S", "void house(int, int) A S", "boolean contract(int, int, int) A",
+        "int write(int, int, int) A S", "boolean file(int, int, boolean) A S", "int seal(int) A S", "int push(int) A S",
+        "boolean up(int, boolean) A", "void loseDisk(int) A", "boolean harm(int, int, int, int, int) A",
+        "boolean recover(int) A", "int sample(int, int, int) A S", "int audit(int) A S", "int repair(int) A S",
+        "int restore(int, int, int) A S", "int restored(int)", "int forget(int, int) A S", "int health(int, int) A",
+        "int keeper(int, int, int) A", "int count(int, int) A", "int stored(int, int) A", "void settle(int) A",
+        "int balance(int, int) A"
     };
 
     private FaceTest() {
@@ -25,14 +29,16 @@ final class FaceTest {
         Set<String> names = new TreeSet<>();
         for (Field field : FriendBackup.class.getDeclaredFields()) {
             if (isOpen(field)) {
-                open.add(field.getName());
+                open.add(field.getType() + " " + field.getName());
+                int constant = Modifier.PUBLIC | Modifier.STATIC | Modifier.FINAL;
+                Check.due(field.getName() + " is a public constant", field.getModifiers(), constant);
             }
         }
         for (Method method : FriendBackup.class.getDeclaredMethods()) {
             if (isOpen(method)) {
                 open.add(signature(method));
                 names.add(method.getName());
-                Check.due(method.getName() + " is public", Modifier.isPublic(method.getModifiers()), true);
+                Check.due(method.getName() + " is public and no more", method.getModifiers(), Modifier.PUBLIC);
             }
         }
         Check.due("the face " + open, open.equals(Set.of(FACE)), true);
@@ -61,9 +67,18 @@ final class FaceTest {
     }
 
     private static String signature(Method method) {
-        StringBuilder text = new StringBuilder(method.getReturnType() + " " + method.getName());
+        StringJoiner text = new StringJoiner(", ", method.getReturnType() + " " + method.getName() + "(", ")");
         for (Class<?> type : method.getParameterTypes()) {
-            text.append(' ').append(type);
+            text.add(type.toString());
+        }
+        return text + thrown(method.getExceptionTypes());
+    }
+
+    private static String thrown(Class<?>[] types) {
+        StringBuilder text = new StringBuilder();
+        for (Class<?> type : types) {
+            String letter = type == IllegalArgumentException.class ? "A" : type.getName();
+            text.append(' ').append(type == IllegalStateException.class ? "S" : letter);
         }
         return text.toString();
     }

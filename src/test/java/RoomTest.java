@@ -19,9 +19,9 @@ final class RoomTest {
     private static void measure(String what, Consumer<FriendBackup> run) {
         ThreadMXBean bean = (ThreadMXBean) ManagementFactory.getThreadMXBean();
         run.accept(tenHouses());
-        long before = bean.getThreadAllocatedBytes(Thread.currentThread().getId());
+        long before = bean.getCurrentThreadAllocatedBytes();
         run.accept(tenHouses());
-        long made = bean.getThreadAllocatedBytes(Thread.currentThread().getId()) - before;
+        long made = bean.getCurrentThreadAllocatedBytes() - before;
         Check.due(what + " makes " + made + " bytes: few", made < MOST_BYTES, true);
     }
 
